@@ -315,6 +315,7 @@ public final class BuildingTest {
         x.struct(4, -1, 0, 1, 1);
         Check.noRoom(() -> x.list(4, 4, 0, 7, 64, 8, 8));
         Check.noRoom(() -> x.list(4, 4, 0, 5, 64, 0, 0));
+        Check.noRoom(() -> x.list(4, 4, 0, 6, 64, 0, 0));
         Check.noRoom(() -> x.list(4, 4, 0, 7, 9, 7, 0));
         cursorIs(x, 4, 1, 64, 0, 1, 64, 1, 0, 0);
         Words.are(x, 0, Words.struct(0, 1, 1), 0, 0);
@@ -482,8 +483,8 @@ public final class BuildingTest {
         SegmentDesk x = begun(8);
         x.struct(0, -1, 0, 2, 0);
         java.util.Random random = new java.util.Random(2);
-        double[] edges = {0.0, -0.0, 1, -1, 0.1, Math.PI, 1e300, -1e300, Double.MAX_VALUE, Double.MIN_VALUE,
-            -Double.MIN_VALUE, Double.MIN_NORMAL, Math.nextDown(Double.MIN_NORMAL), Float.MAX_VALUE,
+        double[] edges = {0.0, -0.0, 1, -1, 0.1, Math.PI, 1e300, -1e300, Double.MAX_VALUE, -Double.MAX_VALUE,
+            Double.MIN_VALUE, -Double.MIN_VALUE, Double.MIN_NORMAL, Math.nextDown(Double.MIN_NORMAL), Float.MAX_VALUE,
             -Float.MAX_VALUE, Float.MIN_VALUE, Float.MIN_NORMAL, Math.nextDown(Float.MIN_NORMAL),
             Float.MIN_VALUE / 2.0, Math.nextUp(Float.MIN_VALUE / 2.0), -Float.MIN_VALUE / 4.0,
             0x1.fffffefffffffp127, 0x1.ffffffp127, -0x1.ffffffp127, 0x1.fffffep127, 1 + 0x1p-24, 1 + 0x3p-24,

@@ -41,6 +41,19 @@ public final class CanonicalTest {
         becomes(Words.desk(Words.struct(0, 1, 3), 8, Words.struct(2, 1, 0), 0, 0, 7),
                 Words.struct(0, 1, 1), 8, Words.struct(0, 1, 0), 7);
         becomes(Words.desk(Words.struct(0, 1, 1), 8, 0), Words.struct(0, 1, 0), 8);
+        long[] long63 = new long[64];
+        java.util.Arrays.fill(long63, 9);
+        long63[0] = Words.struct(0, 63, 0);
+        becomes(Words.desk(long63), long63);
+        long[] overlapping = new long[64];
+        overlapping[0] = Words.struct(-1, 63, 1);
+        overlapping[63] = Words.struct(-1, 0, 0);
+        SegmentDesk x = Words.desk(overlapping);
+        x.word(0, 0, Words.struct(-1, 63, 1));
+        x.root(0, 64);
+        Check.is(1, () -> x.follow(1, 0, 0));
+        Check.is(63, () -> x.look(1, 3));
+        becomes(x, Words.struct(0, 1, 1), overlapping[0], Words.struct(-1, 0, 0));
     }
 
     private static void emptyStructs() {
@@ -80,6 +93,7 @@ public final class CanonicalTest {
 
     private static void lastBits() {
         becomes(Words.desk(Words.list(0, 1, 3), -1), Words.list(0, 1, 3), 7);
+        becomes(Words.desk(Words.list(0, 1, 63), -1), Words.list(0, 1, 63), Long.MAX_VALUE);
         becomes(Words.desk(Words.list(0, 1, 64), -1), Words.list(0, 1, 64), -1);
         becomes(Words.desk(Words.list(0, 1, 65), -1, -1), Words.list(0, 1, 65), -1, 1);
         becomes(Words.desk(Words.list(0, 2, 9), -1, -1), Words.list(0, 2, 9), -1, 255);
@@ -253,6 +267,7 @@ public final class CanonicalTest {
         inside.word(0, 0, Words.list(-1, 6, 64));
         inside.word(0, 1, 3);
         Check.noRoom(() -> inside.canonical());
+        Check.is(936, () -> inside.count(2));
     }
 
     private static void depth() {

@@ -82,6 +82,11 @@ final class Check {
         }
     }
 
+    /** For a test that compares by itself, and tells what is wrong. */
+    static void seen() {
+        looked++;
+    }
+
     static void tell(String what) {
         wrong++;
         if (wrong > 40) {

@@ -7,11 +7,13 @@ public final class ModelTest {
     private static final int RUNS = 3000;
     private static final int CALLS = 256;
 
+    private static final Map<String, Integer> OUTCOMES = new TreeMap<>();
+
     private final Random random;
     private final SegmentDesk desk = new SegmentDesk();
     private final Model model = new Model();
+    /** What most calls of the run are about: 0 words that are set, 1 building, 2 octets. */
     private final int mood;
-    private static final Map<String, Integer> OUTCOMES = new TreeMap<>();
 
     private ModelTest(int seed) {
         random = new Random(seed);
@@ -63,6 +65,7 @@ public final class ModelTest {
 
     /** Answers null, or what went wrong. */
     private String compare(String name, Face ours, Face theirs) {
+        Check.seen();
         String got = outcome(ours);
         String due = outcome(theirs);
         String kind = name.substring(0, name.indexOf('('));

@@ -5,6 +5,7 @@ public final class OctetsTest {
         tags();
         zeroRuns();
         fullRuns();
+        packsAgain();
         longRuns();
         tooMany();
         octets();
@@ -68,6 +69,19 @@ public final class OctetsTest {
                 1, 1, 1, 1, 1, 1, 1, 1, 0, 0, 255, 1, 1, 1, 1, 1, 1, 1, 1, 0);
         packsTo(Words.desk(full, six, full), 0x10, 3, 255, 1, 1, 1, 1, 1, 1, 1, 1, 0,
                 0x77, 1, 1, 1, 1, 1, 1, 255, 1, 1, 1, 1, 1, 1, 1, 1, 0);
+    }
+
+    /** What an earlier pack left behind must not come into a later one. */
+    private static void packsAgain() {
+        SegmentDesk x = Words.desk(-1, -1, -1);
+        x.pack();
+        x.segment(1, 1, 0, 0, 0);
+        x.word(0, 0, -1);
+        packsTo(x, 0x10, 1, 255, 255, 255, 255, 255, 255, 255, 255, 255, 0);
+        x.segment(1, 5, 0, 0, 0);
+        x.pack();
+        x.segment(1, 2, 0, 0, 0);
+        packsTo(x, 0x10, 2, 0, 1);
     }
 
     private static void longRuns() {
@@ -224,6 +238,7 @@ public final class OctetsTest {
 
     private static void wrongFrames() {
         takeIsMalformed(0x01, 4, 0, 2);
+        takeIsMalformed(0x01, 4, 0, 1);
         takeIsMalformed(0x0F, 255, 255, 255, 255);
         takeIsMalformed(0x08, 0x80);
         takeIsMalformed(0x02, 1, 0, 9);
