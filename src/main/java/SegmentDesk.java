@@ -40,8 +40,8 @@ public final class SegmentDesk {
 
     public void segment(int n, int a, int b, int c, int d) throws IllegalArgumentException {
         badIf(n < 1 || n > SEGMENTS);
-        badIf(!isSegmentLength(a) || n > 1 && !isSegmentLength(b));
-        badIf(n > 2 && !isSegmentLength(c) || n > 3 && !isSegmentLength(d));
+        badIf(!isWithin(a, WORDS) || n > 1 && !isWithin(b, WORDS));
+        badIf(n > 2 && !isWithin(c, WORDS) || n > 3 && !isWithin(d, WORDS));
         message.renew(n);
         message.used[0] = a;
         message.used[1] = n > 1 ? b : 0;
@@ -315,10 +315,6 @@ public final class SegmentDesk {
 
     private static boolean isWithin(int n, int most) {
         return n >= 0 && n <= most;
-    }
-
-    private static boolean isSegmentLength(int n) {
-        return n >= 0 && n <= WORDS;
     }
 
     private static boolean isFieldSize(int bits) {
