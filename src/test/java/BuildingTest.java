@@ -394,11 +394,11 @@ public final class BuildingTest {
 
     private static void puts() {
         for (int bits : new int[] {1, 8, 16, 32, 64}) {
-            SegmentDesk x = begun(8);
-            x.struct(0, -1, 0, 2, 1);
             long low = bits == 64 ? -1 : (1L << bits) - 1;
             for (int n = 0; n < 128 / bits; n++) {
                 int field = n;
+                SegmentDesk x = begun(8);
+                x.struct(0, -1, 0, 2, 1);
                 Check.fine(() -> x.put(0, bits, field, -1));
                 Check.is(n * bits < 64 ? low << n * bits : 0, () -> x.at(0, 1));
                 Check.is(n * bits >= 64 ? low << n * bits - 64 : 0, () -> x.at(0, 2));
@@ -406,6 +406,8 @@ public final class BuildingTest {
                 Check.fine(() -> x.put(0, bits, field, bits == 64 ? 0 : 1L << bits));
                 Check.is(0, () -> x.number(0, bits, field, 0));
             }
+            SegmentDesk x = begun(8);
+            x.struct(0, -1, 0, 2, 1);
             Check.bad(() -> x.put(0, bits, 128 / bits, 0));
             Check.bad(() -> x.put(0, bits, Integer.MAX_VALUE, 0));
         }
@@ -480,8 +482,6 @@ public final class BuildingTest {
     }
 
     private static void putReals() {
-        SegmentDesk x = begun(8);
-        x.struct(0, -1, 0, 2, 0);
         java.util.Random random = new java.util.Random(2);
         double[] edges = {0.0, -0.0, 1, -1, 0.1, Math.PI, 1e300, -1e300, Double.MAX_VALUE, -Double.MAX_VALUE,
             Double.MIN_VALUE, -Double.MIN_VALUE, Double.MIN_NORMAL, Math.nextDown(Double.MIN_NORMAL), Float.MAX_VALUE,
@@ -491,17 +491,19 @@ public final class BuildingTest {
             1 + 0x1.000001p-24, 16777217, 16777219, Double.POSITIVE_INFINITY, Double.NEGATIVE_INFINITY,
             Double.NaN};
         for (double v : edges) {
-            putAndLook(x, v);
+            putAndLook(v);
         }
         for (int k = 0; k < 3000; k++) {
-            putAndLook(x, Double.longBitsToDouble(random.nextLong()));
-            putAndLook(x, Float.intBitsToFloat(random.nextInt()));
-            putAndLook(x, random.nextGaussian());
-            putAndLook(x, (random.nextInt(1 << 24) + 0.5) * Float.MIN_VALUE * random.nextInt(9));
+            putAndLook(Double.longBitsToDouble(random.nextLong()));
+            putAndLook(Float.intBitsToFloat(random.nextInt()));
+            putAndLook(random.nextGaussian());
+            putAndLook((random.nextInt(1 << 24) + 0.5) * Float.MIN_VALUE * random.nextInt(9));
         }
     }
 
-    private static void putAndLook(SegmentDesk x, double v) {
+    private static void putAndLook(double v) {
+        SegmentDesk x = begun(8);
+        x.struct(0, -1, 0, 2, 0);
         x.put(0, 64, 0, 0x5555555555555555L);
         x.put(0, 64, 1, 0x5555555555555555L);
         if (Double.isFinite(v)) {

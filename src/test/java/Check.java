@@ -14,6 +14,7 @@ final class Check {
 
     private static int wrong = 0;
     private static int looked = 0;
+    private static String about = "";
 
     private Check() {
     }
@@ -70,7 +71,7 @@ final class Check {
         throwsJust(ArithmeticException.class, act);
     }
 
-    private static void throwsJust(Class<?> want, Act act) {
+    static void throwsJust(Class<?> want, Act act) {
         looked++;
         try {
             act.run();
@@ -87,6 +88,15 @@ final class Check {
         looked++;
     }
 
+    static int looked() {
+        return looked;
+    }
+
+    /** What the answers looked at from now on are about; it stands in front of what is told. */
+    static void about(String what) {
+        about = what;
+    }
+
     static void tell(String what) {
         wrong++;
         if (wrong > 40) {
@@ -98,7 +108,7 @@ final class Check {
                 lines.append(' ').append(frame.getFileName()).append(':').append(frame.getLineNumber());
             }
         }
-        System.out.println(what + " at" + lines);
+        System.out.println(about + what + " at" + lines);
     }
 
     static void end() {
