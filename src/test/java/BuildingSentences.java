@@ -313,6 +313,16 @@ final class BuildingSentences {
         Check.is(Words.doubleFar(0, 8), () -> own.at(0, 7));
         Check.is(Words.far(1, 7), () -> own.at(0, 8));
         Check.is(Words.struct(0, 3, 0), () -> own.at(0, 9));
+        // The POINTER's own SEGMENT has 2 left as well, but another one that has comes before it.
+        SegmentDesk first = segmentsOf(8, 6);
+        first.struct(2, 0, 1, 5, 2);
+        usedIs(first, 8, 6, 8);
+        Check.is(1, () -> first.struct(3, 2, 0, 4, 0));
+        usedIs(first, 10, 10, 8);
+        PointerSentences.cursorIs(first, 3, 1, 64, 1, 6, 256, 0, 0, 0);
+        Check.is(Words.doubleFar(0, 8), () -> first.at(2, 6));
+        Check.is(Words.far(1, 6), () -> first.at(0, 8));
+        Check.is(Words.struct(0, 4, 0), () -> first.at(0, 9));
         // Both have just 2 left: the first takes the WORDS, so the pad goes to the other one.
         SegmentDesk both = Scenes.begun(6);
         both.struct(0, -1, 0, 0, 5);
@@ -476,6 +486,23 @@ final class BuildingSentences {
         Check.is(10, () -> x.look(7, 3));
         Check.is(1, () -> x.follow(7, 6, 1));
         Check.is(9, () -> x.look(7, 3));
+        fromEachCursor();
+    }
+
+    /** Whichever CURSOR it is, and wherever that stands. */
+    private static void fromEachCursor() {
+        for (int c = 0; c < 16; c++) {
+            int from = c;
+            SegmentDesk x = Scenes.begun(8);
+            x.struct(from, -1, 0, 1, 1);
+            x.struct(from, from, 0, 2, 4);
+            Check.is(1, () -> x.look(from, 2));
+            Check.is(1, () -> x.struct((from + 1) % 16, from, 3, 1, 0));
+            Words.are(x, 1, Words.struct(0, 2, 4), 0, 0, 0, 0, 0, Words.struct(0, 1, 0), 0);
+            Words.are(x, 0, Words.struct(0, 1, 1), 0, Words.far(1, 0));
+            Check.is(2, () -> x.list(from, from, 0, 5, 0, 0, 0));
+            Check.is(Words.list(4, 5, 0), () -> x.at(1, 3));
+        }
     }
 
     private static void structAtRoot() {
@@ -841,6 +868,16 @@ final class BuildingSentences {
             Check.is(Double.doubleToRawLongBits(v), () -> x.at(0, 2));
             Check.is(0, () -> x.at(0, 3));
             Check.isReal(v, () -> x.real(0, true, 1));
+        }
+        for (int exponent = 0; exponent < 2047; exponent++) {
+            long bits = (exponent % 2L << 63) | (long) exponent << 52 | 0x000F0E0D0C0B0A09L * exponent >>> 12;
+            SegmentDesk x = forReals();
+            Check.fine(() -> x.putReal(0, true, 0, Double.longBitsToDouble(bits)));
+            Check.is(bits, () -> x.at(0, 1));
+        }
+        for (int exponent = 0; exponent < 255; exponent++) {
+            int bits = exponent % 2 << 31 | exponent << 23 | 0x0B0A09 * exponent >>> 9;
+            putNarrow(Float.intBitsToFloat(bits), bits);
         }
         putNarrow(0.0, 0);
         putNarrow(-0.0, 0x80000000);

@@ -95,6 +95,11 @@ final class CanonicalSentences {
         becomes(Words.desk(Words.list(0, 6, 2), Words.struct(1, 0, 1), Words.list(1, 5, 1), Words.list(1, 5, 1), 11,
                 22),
                 Words.list(0, 6, 2), Words.struct(1, 0, 1), Words.list(2, 5, 1), Words.list(0, 5, 1), 22, 11);
+        // What one needs is not what the next one needs.
+        becomes(Words.desk(Words.struct(0, 0, 3), Words.struct(2, 2, 1), Words.struct(4, 2, 1), Words.list(6, 6, 2),
+                1, 2, Words.struct(-1, 0, 0), 3, 0, 0, 0, Words.list(-2, 5, 1)),
+                Words.struct(0, 0, 3), Words.struct(2, 2, 1), Words.struct(4, 1, 0), Words.list(4, 6, 2),
+                1, 2, Words.struct(-1, 0, 0), 3, 0, Words.list(0, 5, 1), 0);
     }
 
     private static void lists() {
@@ -176,6 +181,15 @@ final class CanonicalSentences {
             made[k] = x.at(0, k);
         }
         becomes(x, made);
+        // Nothing of one that was made before shows in the next one.
+        SegmentDesk twice = Words.desk(filled(9, Words.struct(0, 8, 0), -1));
+        twice.canonical();
+        twice.segment(1, 4, 0, 0, 0);
+        twice.word(0, 0, Words.list(0, 6, 3));
+        twice.word(0, 2, Words.list(-1, 0, 5));
+        becomes(twice, Words.list(0, 6, 3), 0, Words.list(1, 0, 5), 0);
+        twice.segment(1, 1, 0, 0, 0);
+        becomes(twice, 0);
         // Nothing of the MESSAGE before shows behind it.
         SegmentDesk full = Words.desk(filled(64, Words.struct(-1, 0, 0), -1));
         full.canonical();

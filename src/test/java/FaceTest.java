@@ -36,10 +36,25 @@ public final class FaceTest {
         if (!found.equals(due)) {
             Check.tell("methods are " + found + ", due are " + due);
         }
+        inside(names);
         fields();
         constructors();
         Check.is(Modifier.PUBLIC | Modifier.FINAL, () -> SegmentDesk.class.getModifiers());
         Check.end();
+    }
+
+    /** The classes inside are static, and their methods bear no name of the face either. */
+    private static void inside(TreeSet<String> names) {
+        for (Class<?> type : SegmentDesk.class.getDeclaredClasses()) {
+            if (!Modifier.isStatic(type.getModifiers()) || Modifier.isPublic(type.getModifiers())) {
+                Check.tell("not static, or public: " + type);
+            }
+            for (Method method : type.getDeclaredMethods()) {
+                if (names.contains(method.getName())) {
+                    Check.tell("a method inside is named " + method.getName());
+                }
+            }
+        }
     }
 
     private static String signature(Method method) {

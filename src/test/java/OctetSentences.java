@@ -196,6 +196,19 @@ final class OctetSentences {
         packsTo(x, 0x10, 1, 0, 0);
         x.feed(9, 1);
         Words.octetsAre(x, 0x10, 1, 0, 0, 9);
+        // Nor does anything of a longer MESSAGE come into a shorter one, whatever was packed or taken before.
+        SegmentDesk shorter = Words.desk(FULL, FULL, FULL, FULL);
+        shorter.pack();
+        shorter.segment(1, 2, 0, 0, 0);
+        Words.set(shorter, 0, FULL, FULL);
+        packsTo(shorter, 0x10, 2, 255, 8, 7, 6, 5, 4, 3, 2, 1, 1, 8, 7, 6, 5, 4, 3, 2, 1);
+        shorter.segment(1, 5, 0, 0, 0);
+        shorter.pack();
+        shorter.take();
+        shorter.segment(1, 2, 0, 0, 0);
+        packsTo(shorter, 0x10, 2, 0, 1);
+        shorter.word(0, 1, FULL);
+        packsTo(shorter, 0x10, 2, 0, 0, 255, 8, 7, 6, 5, 4, 3, 2, 1, 0);
     }
 
     /** 6 octets of numbers in front, 10 for the first full WORD, 8 for each other one: 186 of them make 1496. */
@@ -225,6 +238,19 @@ final class OctetSentences {
         Check.noRoom(() -> over.pack());
         Check.is(4, () -> over.feed(4, 1));
         Words.octetsAre(over, 1, 2, 3, 4);
+        // Those from before may be packed ones.
+        SegmentDesk packed = dear(0x0707);
+        packed.segment(1, 1, 0, 0, 0);
+        packed.word(0, 0, 5);
+        packsTo(packed, 0x10, 1, 0x01, 5);
+        packed.segment(3, 64, 64, 64, 0);
+        for (int k = 0; k < 192; k++) {
+            packed.word(k / 64, k % 64, -1);
+        }
+        Check.noRoom(() -> packed.pack());
+        Words.octetsAre(packed, 0x10, 1, 0x01, 5);
+        Check.noRoom(() -> packed.pack());
+        Words.octetsAre(packed, 0x10, 1, 0x01, 5);
     }
 
     private static void octetsThere() {

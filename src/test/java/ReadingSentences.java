@@ -125,9 +125,13 @@ final class ReadingSentences {
         }
     }
 
+    /** Nothing is left of where they stood before: no DATA, and no POINTERS. */
     static void allAtNothing(SegmentDesk x) {
         for (int c = 0; c < 16; c++) {
+            int cursor = c;
             PointerSentences.cursorIs(x, c, 0, 0, 0, 0, 0, 0, 0, 0);
+            Check.is(0, () -> x.number(cursor, 64, 0, 0));
+            Check.is(0, () -> x.follow(cursor, cursor, 0));
         }
     }
 
@@ -390,6 +394,9 @@ final class ReadingSentences {
             // An element of numbers has no POINTERS, though a WORD lies there.
             Check.is(SegmentDesk.NOTHING, () -> x.follow(4, 10, n));
             Check.is(SegmentDesk.NOTHING, () -> x.follow(4, 14, n));
+            // Nor has a CURSOR that stood at a STRUCT before.
+            Check.is(SegmentDesk.NOTHING, () -> x.follow(0, 0, 10));
+            Check.is(SegmentDesk.NOTHING, () -> x.follow(5, 0, n));
         }
     }
 
@@ -548,6 +555,17 @@ final class ReadingSentences {
             Check.is(0, () -> x.number(15, bits, MAX, 0));
             Check.is(1, () -> x.number(15, bits, 3, 1));
         }
+        // Also where the CURSOR stood at a STRUCT or an element before.
+        for (int c : new int[] {0, 10, 12, 13}) {
+            Check.is(SegmentDesk.NOTHING, () -> x.follow(c, c, 64));
+            Check.is(0, () -> x.number(c, 8, 0, 0));
+            Check.is(0, () -> x.number(c, 1, 0, 0));
+            Check.isReal(0.0, () -> x.real(c, false, 0));
+        }
+        SegmentDesk odd = Words.desk(Words.list(0, 6, 1), 0);
+        odd.root(0, 9);
+        odd.follow(1, 0, 0);
+        Check.is(0, () -> odd.number(1, 1, 0, 0));
     }
 
     private static void numbersWithSign() {
@@ -627,6 +645,16 @@ final class ReadingSentences {
         for (float v : narrow) {
             SegmentDesk x = atData(0xFFFFFFFFL, -1L << 32 | Float.floatToRawIntBits(v) & 0xFFFFFFFFL);
             Check.isReal(v, () -> x.real(0, false, 2));
+        }
+        for (int exponent = 0; exponent < 2047; exponent++) {
+            long bits = (exponent % 2L << 63) | (long) exponent << 52 | 0x000F0E0D0C0B0A09L * exponent >>> 12;
+            SegmentDesk every = atData(bits);
+            Check.isReal(Double.longBitsToDouble(bits), () -> every.real(0, true, 0));
+        }
+        for (int exponent = 0; exponent < 255; exponent++) {
+            int bits = exponent % 2 << 31 | exponent << 23 | 0x0B0A09 * exponent >>> 9;
+            SegmentDesk every = atData((long) bits << 32);
+            Check.isReal(Float.intBitsToFloat(bits), () -> every.real(0, false, 1));
         }
         SegmentDesk x = atData(-1);
         Check.isReal(0.0, () -> x.real(0, true, 1));
