@@ -104,7 +104,8 @@ final class Check {
         }
         StringBuilder lines = new StringBuilder();
         for (StackTraceElement frame : new Throwable().getStackTrace()) {
-            if (!frame.getClassName().startsWith("Check")) {
+            // The classes of the tests have no package; the library's lines tell nothing.
+            if (!frame.getClassName().startsWith("Check") && !frame.getClassName().contains(".")) {
                 lines.append(' ').append(frame.getFileName()).append(':').append(frame.getLineNumber());
             }
         }
